@@ -10,6 +10,7 @@ final class PromisesTest {
         aNewObject();
         lay();
         layIsAllNew();
+        layIsDownAtOnce();
         write();
         writeFull();
         writeJoins();
@@ -23,8 +24,12 @@ final class PromisesTest {
         commit();
         commitUse();
         commitClearsFirst();
+        commitOfAsManyAsFit();
+        commitAgainAndAgain();
+        commitLostAgainAndAgain();
         commitAtEachStep();
         clear();
+        clearAgain();
         clearAtEachStep();
         clearWithNothingLying();
         fuse();
@@ -131,6 +136,16 @@ final class PromisesTest {
         x.fail();
         is("laid anew: nothing was under way", x.mount(-1), 0);
         is("laid anew: all 0s", x.read(3, 0), 0);
+    }
+
+    private static void layIsDownAtOnce() {
+        RedoJournal x = new RedoJournal();
+        x.direct(3, 9);
+        x.lay(40);
+        x.fuse(2);
+        is("power fails with a block under way", x.direct(3, 5), OFF);
+        is("it is not down", x.mount(0), 0);
+        blockIs("it is as it was laid", x, 3, 0, 0);
     }
 
     private static void write() {
@@ -286,6 +301,9 @@ final class PromisesTest {
             x.fuse(2);
             is("power fails before the last barrier", x.direct(7, 2), OFF);
             is("mount", x.mount(cut[0] | 0xFFF0L), 0);
+            is("it is under way no more", x.count(UNDER_WAY), 0);
+            is("nor when power fails", x.fail(), 0);
+            is("mount again", x.mount(-1), 0);
             blockIs("down with " + cut[0], x, 7, cut[1], cut[2]);
         }
         for (int steps = 0; steps < 2; steps++) {
@@ -368,6 +386,60 @@ final class PromisesTest {
         counts("a still larger ring", x, 14, 41, 0, 0, 0, 65 + 4, 0);
     }
 
+    private static void commitOfAsManyAsFit() {
+        RedoJournal x = new RedoJournal();
+        x.lay(200);
+        for (int i = 1; i <= 99; i++) {
+            x.forget(i % 64);
+            is("revokes alone", x.commit(), 2);
+            is("so many fit", x.count(LOG), i);
+        }
+        x.forget(0);
+        is("the 100th clears first", x.commit(), 2);
+        is("it is alone", x.count(LOG), 1);
+        x.lay(200);
+        for (int i = 0; i < 6; i++) {
+            writeWhole(x, 5 * i, 30, i + 1);
+            is("30 blocks", x.commit(), 33);
+        }
+        counts("180 blocks", x, 6, 198, 55);
+        x.fail();
+        is("they come home", x.mount(0), 180);
+        for (int block = 0; block < 55; block++) {
+            int value = Math.min(6, block / 5 + 1);
+            blockIs("the latest", x, block, value, value);
+        }
+    }
+
+    private static void commitAgainAndAgain() {
+        RedoJournal x = new RedoJournal();
+        for (int i = 0; i < 250; i++) {
+            x.write(i % 64, 0, 256, i);
+            is("commit " + i, x.commit(), 3);
+            is("13 fit at once", x.count(LOG), i % 13 + 1);
+        }
+        x.fail();
+        is("the last ones come home", x.mount(0), 249 % 13 + 1);
+        for (int i = 250 - 64; i < 250; i++) {
+            blockIs("the last value", x, i % 64, i, i);
+        }
+    }
+
+    private static void commitLostAgainAndAgain() {
+        RedoJournal x = new RedoJournal();
+        for (int i = 0; i < 250; i++) {
+            x.write(1, 0, 256, 1);
+            x.fuse(4);
+            is("power fails", x.commit(), OFF);
+            is("the commit is not down", x.mount(0), 0);
+        }
+        x.write(1, 0, 256, 2);
+        is("another", x.commit(), 3);
+        x.fail();
+        is("comes home", x.mount(0), 1);
+        blockIs("it", x, 1, 2, 2);
+    }
+
     private static void commitAtEachStep() {
         for (int fuse = 0; fuse <= 5; fuse++) {
             for (int bits = 0; bits < 4; bits++) {
@@ -406,6 +478,19 @@ final class PromisesTest {
         blockIs("home", x, 0, 1, 1);
         blockIs("the latest one tells", x, 1, 2, 2);
         blockIs("what ran is lost", x, 2, 1, 1);
+    }
+
+    private static void clearAgain() {
+        RedoJournal x = new RedoJournal();
+        for (int i = 5; i > 0; i--) {
+            for (int commits = 0; commits < i; commits++) {
+                x.write(1, 0, 256, 10 * i + commits);
+                x.commit();
+            }
+            is("clear", x.clear(), 1);
+            x.forget(1);
+            blockIs("the latest of this log", x, 1, 11 * i - 1, 11 * i - 1);
+        }
     }
 
     private static void clearAtEachStep() {
