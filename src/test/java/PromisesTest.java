@@ -25,6 +25,7 @@ final class PromisesTest {
         commitUse();
         commitClearsFirst();
         commitOfAsManyAsFit();
+        commitOfAsManyBlocksAsFit();
         commitAgainAndAgain();
         commitLostAgainAndAgain();
         commitAtEachStep();
@@ -48,34 +49,34 @@ final class PromisesTest {
         due.is(what, got, want);
     }
 
-    private static void counts(String what, RedoJournal x, int... want) {
+    private static void counts(String what, Run x, int... want) {
         for (int which = 0; which < want.length; which++) {
             is(what + ": count(" + which + ")", x.count(which), want[which]);
         }
     }
 
-    private static void blockIs(String what, RedoJournal x, int block, int first, int last) {
-        for (int at = 0; at < 256; at++) {
+    private static void blockIs(String what, Run x, int block, int first, int last) {
+        for (int at : new int[] {0, 127, 128, 255}) {
             is(what + ": read(" + block + ", " + at + ")", x.read(block, at), at < 128 ? first : last);
         }
     }
 
-    private static void writeWhole(RedoJournal x, int from, int n, int value) {
+    private static void writeWhole(Run x, int from, int n, int value) {
         for (int block = from; block < from + n; block++) {
             x.write(block, 0, 256, value);
         }
     }
 
     /** An object whose log has one transaction, of n blocks from 0 on, all bytes a value. */
-    private static RedoJournal withLog(int n, int value) {
-        RedoJournal x = new RedoJournal();
+    private static Run withLog(int n, int value) {
+        Run x = due.run("withLog");
         writeWhole(x, 0, n, value);
         x.commit();
         return x;
     }
 
     private static void aNewObject() {
-        RedoJournal x = new RedoJournal();
+        Run x = due.run("aNewObject");
         counts("new", x, 0, 0, 0, 0, 0, 0, 0, BAD);
         for (int block = 0; block < 64; block++) {
             blockIs("new", x, block, 0, 0);
@@ -93,7 +94,7 @@ final class PromisesTest {
     }
 
     private static void lay() {
-        RedoJournal x = new RedoJournal();
+        Run x = due.run("lay");
         for (int ring : new int[] {40, 41, 199, 200}) {
             is("lay(" + ring + ")", x.lay(ring), ring);
         }
@@ -111,7 +112,7 @@ final class PromisesTest {
     }
 
     private static void layIsAllNew() {
-        RedoJournal x = withLog(3, 7);
+        Run x = withLog(3, 7);
         x.clear();
         writeWhole(x, 2, 3, 8);
         x.commit();
@@ -139,7 +140,7 @@ final class PromisesTest {
     }
 
     private static void layIsDownAtOnce() {
-        RedoJournal x = new RedoJournal();
+        Run x = due.run("layIsDownAtOnce");
         x.direct(3, 9);
         x.lay(40);
         x.fuse(2);
@@ -149,7 +150,7 @@ final class PromisesTest {
     }
 
     private static void write() {
-        RedoJournal x = new RedoJournal();
+        Run x = due.run("write");
         is("first block", x.write(0, 0, 1, 255), 1);
         is("same block", x.write(0, 255, 1, 1), 1);
         is("last block", x.write(63, 0, 256, 3), 2);
@@ -175,7 +176,7 @@ final class PromisesTest {
     }
 
     private static void writeFull() {
-        RedoJournal x = new RedoJournal();
+        Run x = due.run("writeFull");
         for (int block = 0; block < 30; block++) {
             is("block " + block, x.write(2 * block, 0, 1, 1), block + 1);
         }
@@ -189,7 +190,7 @@ final class PromisesTest {
     }
 
     private static void writeJoins() {
-        RedoJournal x = new RedoJournal();
+        Run x = due.run("writeJoins");
         is("the bytes that were there", x.write(9, 0, 1, 0), 1);
         x.forget(10);
         is("a revoked block", x.write(10, 0, 1, 1), 2);
@@ -205,7 +206,7 @@ final class PromisesTest {
     }
 
     private static void read() {
-        RedoJournal x = new RedoJournal();
+        Run x = due.run("read");
         x.write(63, 255, 1, 200);
         is("last byte", x.read(63, 255), 200);
         is("first byte", x.read(0, 0), 0);
@@ -216,7 +217,7 @@ final class PromisesTest {
     }
 
     private static void forget() {
-        RedoJournal x = new RedoJournal();
+        Run x = due.run("forget");
         x.write(4, 0, 9, 9);
         is("one of the transaction", x.forget(4), 1);
         is("it leaves", x.count(RUNNING), 0);
@@ -230,7 +231,7 @@ final class PromisesTest {
     }
 
     private static void forgetFull() {
-        RedoJournal x = new RedoJournal();
+        Run x = due.run("forgetFull");
         for (int block = 0; block < 30; block++) {
             is("forget " + block, x.forget(block), block + 1);
         }
@@ -244,7 +245,7 @@ final class PromisesTest {
     }
 
     private static void forgetIsWhatLiesAtHome() {
-        RedoJournal x = withLog(1, 5);
+        Run x = withLog(1, 5);
         is("forgotten while the log has it", x.forget(0), 1);
         is("home is not the log", x.read(0, 0), 0);
         is("it lies in the log till the commit", x.count(LYING), 1);
@@ -255,7 +256,7 @@ final class PromisesTest {
     }
 
     private static void direct() {
-        RedoJournal x = new RedoJournal();
+        Run x = due.run("direct");
         is("direct", x.direct(63, 255), 0);
         is("three steps", x.count(STEPS), 3);
         blockIs("direct", x, 63, 255, 255);
@@ -271,7 +272,7 @@ final class PromisesTest {
     }
 
     private static void directIsRefused() {
-        RedoJournal x = new RedoJournal();
+        Run x = due.run("directIsRefused");
         x.write(1, 0, 1, 1);
         is("in the running transaction", x.direct(1, 2), BAD);
         x.forget(1);
@@ -296,7 +297,7 @@ final class PromisesTest {
     private static void directCutInTwo() {
         int[][] cuts = {{0, 1, 1}, {1, 2, 2}, {2, 2, 1}, {3, 1, 2}};
         for (int[] cut : cuts) {
-            RedoJournal x = new RedoJournal();
+            Run x = due.run("directCutInTwo");
             x.direct(7, 1);
             x.fuse(2);
             is("power fails before the last barrier", x.direct(7, 2), OFF);
@@ -307,21 +308,21 @@ final class PromisesTest {
             blockIs("down with " + cut[0], x, 7, cut[1], cut[2]);
         }
         for (int steps = 0; steps < 2; steps++) {
-            RedoJournal x = new RedoJournal();
+            Run x = due.run("directCutInTwo");
             x.fuse(steps);
             is("direct with a fuse of " + steps, x.direct(7, 2), OFF);
             is("mount", x.mount(-1), 0);
             is("so many steps", x.count(STEPS), steps);
             blockIs("not yet under way", x, 7, 0, 0);
         }
-        RedoJournal x = new RedoJournal();
+        Run x = due.run("directCutInTwo");
         x.fuse(3);
         is("direct with a fuse of 3", x.direct(7, 2), 0);
         is("none left", x.fuse(-1), 0);
     }
 
     private static void commit() {
-        RedoJournal x = new RedoJournal();
+        Run x = due.run("commit");
         is("nothing", x.commit(), 0);
         counts("nothing", x, 0, 0, 0, 0, 0, 0, 0);
         x.write(5, 0, 1, 1);
@@ -340,7 +341,7 @@ final class PromisesTest {
     private static void commitUse() {
         int[][] uses = {{1, 3}, {2, 4}, {27, 29}, {28, 30}, {29, 32}, {30, 33}};
         for (int[] use : uses) {
-            RedoJournal x = new RedoJournal();
+            Run x = due.run("commitUse");
             writeWhole(x, 0, use[0], 1);
             is(use[0] + " blocks", x.commit(), use[1]);
             is(use[0] + " blocks' steps", x.count(STEPS), use[1] + 2);
@@ -354,7 +355,7 @@ final class PromisesTest {
     }
 
     private static void commitClearsFirst() {
-        RedoJournal x = new RedoJournal();
+        Run x = due.run("commitClearsFirst");
         for (int i = 0; i < 13; i++) {
             x.write(i % 5, i, 1, i + 1);
             is("commit " + i, x.commit(), 3);
@@ -387,7 +388,7 @@ final class PromisesTest {
     }
 
     private static void commitOfAsManyAsFit() {
-        RedoJournal x = new RedoJournal();
+        Run x = due.run("commitOfAsManyAsFit");
         x.lay(200);
         for (int i = 1; i <= 99; i++) {
             x.forget(i % 64);
@@ -397,6 +398,10 @@ final class PromisesTest {
         x.forget(0);
         is("the 100th clears first", x.commit(), 2);
         is("it is alone", x.count(LOG), 1);
+    }
+
+    private static void commitOfAsManyBlocksAsFit() {
+        Run x = due.run("commitOfAsManyBlocksAsFit");
         x.lay(200);
         for (int i = 0; i < 6; i++) {
             writeWhole(x, 5 * i, 30, i + 1);
@@ -412,22 +417,22 @@ final class PromisesTest {
     }
 
     private static void commitAgainAndAgain() {
-        RedoJournal x = new RedoJournal();
-        for (int i = 0; i < 250; i++) {
+        Run x = due.run("commitAgainAndAgain");
+        for (int i = 0; i < 80; i++) {
             x.write(i % 64, 0, 256, i);
             is("commit " + i, x.commit(), 3);
             is("13 fit at once", x.count(LOG), i % 13 + 1);
         }
         x.fail();
-        is("the last ones come home", x.mount(0), 249 % 13 + 1);
-        for (int i = 250 - 64; i < 250; i++) {
+        is("the last ones come home", x.mount(0), 79 % 13 + 1);
+        for (int i = 80 - 64; i < 80; i++) {
             blockIs("the last value", x, i % 64, i, i);
         }
     }
 
     private static void commitLostAgainAndAgain() {
-        RedoJournal x = new RedoJournal();
-        for (int i = 0; i < 250; i++) {
+        Run x = due.run("commitLostAgainAndAgain");
+        for (int i = 0; i < 120; i++) {
             x.write(1, 0, 256, 1);
             x.fuse(4);
             is("power fails", x.commit(), OFF);
@@ -443,7 +448,7 @@ final class PromisesTest {
     private static void commitAtEachStep() {
         for (int fuse = 0; fuse <= 5; fuse++) {
             for (int bits = 0; bits < 4; bits++) {
-                RedoJournal x = new RedoJournal();
+                Run x = due.run("commitAtEachStep");
                 x.direct(3, 1);
                 x.write(3, 0, 256, 2);
                 x.fuse(fuse);
@@ -463,7 +468,7 @@ final class PromisesTest {
     }
 
     private static void clear() {
-        RedoJournal x = withLog(3, 1);
+        Run x = withLog(3, 1);
         x.write(1, 0, 256, 2);
         x.commit();
         x.write(2, 0, 256, 3);
@@ -481,7 +486,7 @@ final class PromisesTest {
     }
 
     private static void clearAgain() {
-        RedoJournal x = new RedoJournal();
+        Run x = due.run("clearAgain");
         for (int i = 5; i > 0; i--) {
             for (int commits = 0; commits < i; commits++) {
                 x.write(1, 0, 256, 10 * i + commits);
@@ -497,7 +502,7 @@ final class PromisesTest {
         // Blocks 0 and 1 come home, the log telling 2, home being 1.
         for (int fuse = 0; fuse < 5; fuse++) {
             for (int bits = 0; bits < 16; bits++) {
-                RedoJournal x = new RedoJournal();
+                Run x = due.run("clearAtEachStep");
                 x.direct(0, 1);
                 x.direct(1, 1);
                 writeWhole(x, 0, 2, 2);
@@ -514,7 +519,7 @@ final class PromisesTest {
     }
 
     private static void clearWithNothingLying() {
-        RedoJournal x = new RedoJournal();
+        Run x = due.run("clearWithNothingLying");
         x.forget(1);
         x.commit();
         is("no block lies in the log", x.count(LYING), 0);
@@ -528,7 +533,7 @@ final class PromisesTest {
     }
 
     private static void fuse() {
-        RedoJournal x = new RedoJournal();
+        Run x = due.run("fuse");
         is("none before", x.fuse(100000), -1);
         is("all left", x.fuse(0), 100000);
         is("0 left", x.fuse(-1), 0);
@@ -549,7 +554,7 @@ final class PromisesTest {
     }
 
     private static void fail() {
-        RedoJournal x = withLog(2, 3);
+        Run x = withLog(2, 3);
         x.fuse(9);
         is("nothing under way", x.fail(), 0);
         is("power is off", x.fail(), OFF);
@@ -559,7 +564,7 @@ final class PromisesTest {
     }
 
     private static void offComesBeforeBad() {
-        RedoJournal x = withLog(1, 1);
+        Run x = withLog(1, 1);
         x.fail();
         is("write", x.write(0, 0, 1, 1), OFF);
         is("bad write", x.write(-1, -1, -1, -1), OFF);
@@ -582,7 +587,7 @@ final class PromisesTest {
     }
 
     private static void mount() {
-        RedoJournal x = new RedoJournal();
+        Run x = due.run("mount");
         is("power is on", x.mount(0), BAD);
         x.fuse(0);
         x.fail();
@@ -597,7 +602,7 @@ final class PromisesTest {
     }
 
     private static void mountGoesThroughAllTransactions() {
-        RedoJournal x = withLog(3, 1);
+        Run x = withLog(3, 1);
         writeWhole(x, 1, 2, 2);
         x.commit();
         x.forget(0);
@@ -621,7 +626,7 @@ final class PromisesTest {
     private static void mountAtEachStep() {
         for (int fuse = 0; fuse < 5; fuse++) {
             for (int bits = 0; bits < 16; bits++) {
-                RedoJournal x = withLog(2, 2);
+                Run x = withLog(2, 2);
                 x.fuse(fuse);
                 x.fail();
                 is("the fuse ends mount", x.mount(0), OFF);
@@ -639,7 +644,7 @@ final class PromisesTest {
     private static void mountOfTwiceWrittenBlocks() {
         for (int fuse = 0; fuse < 6; fuse++) {
             for (int bits = 0; bits < 16; bits++) {
-                RedoJournal x = withLog(2, 1);
+                Run x = withLog(2, 1);
                 writeWhole(x, 0, 1, 2);
                 x.commit();
                 x.fuse(fuse);
@@ -654,7 +659,7 @@ final class PromisesTest {
     }
 
     private static void mountBehindThe32nd() {
-        RedoJournal x = new RedoJournal();
+        Run x = due.run("mountBehindThe32nd");
         x.lay(200);
         writeWhole(x, 0, 30, 1);
         x.commit();
@@ -669,7 +674,7 @@ final class PromisesTest {
     }
 
     private static void count() {
-        RedoJournal x = withLog(2, 1);
+        Run x = withLog(2, 1);
         x.write(1, 0, 1, 2);
         x.forget(0);
         x.commit();
