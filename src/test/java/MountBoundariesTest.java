@@ -41,6 +41,7 @@ final class MountBoundariesTest {
         whatWasDownIsHome();
         theLogIsEmptyThen();
         mountedAgainAndAgain();
+        manyBlocksLostAgainAndAgain();
         due.end();
     }
 
@@ -501,5 +502,21 @@ final class MountBoundariesTest {
         x.fail();
         x.is(x.mount(0), 1);
         x.blockIs(1, 9);
+    }
+
+    private static void manyBlocksLostAgainAndAgain() {
+        Run x = due.run("11 the bytes of commits that are lost take no room");
+        for (int i = 0; i < 12; i++) {
+            x.writeWhole(0, 20, 1);
+            x.fuse(23);
+            x.is(x.commit(), OFF);
+            x.is(x.mount(i % 2 * 3), 0);
+        }
+        x.is(x.commitWhole(0, 30, 9), 33);
+        x.counts(1, 33, 30);
+        x.fail();
+        x.is(x.mount(0), 30);
+        x.blockIs(0, 9);
+        x.blockIs(29, 9);
     }
 }
