@@ -26,6 +26,7 @@ final class LanguageTest {
         onlyWhatRule4Lists(code);
         nothingThatIsRuledOut(code);
         shortMethods(code);
+        nothingIsMadeByACall(code);
         List<Class<?>> classes = new ArrayList<>(List.of(RedoJournal.class.getDeclaredClasses()));
         classes.add(RedoJournal.class);
         due.holds("rule 11: the file has few classes", classes.size() <= MOST_CLASSES);
@@ -76,6 +77,16 @@ final class LanguageTest {
             }
         }
         due.holds("there are methods", begin >= 0);
+    }
+
+    /** All memory is made once: by a final field's initialiser, or by the constructor for one. */
+    private static void nothingIsMadeByACall(String code) {
+        Set<String> made = found(code, "(?m)^.*\\bnew\\b.*$");
+        for (String line : made) {
+            due.holds("made once:" + line, line.matches(" +(final .*|disk|log|now) = new .*"));
+        }
+        due.holds("there is something made", !made.isEmpty());
+        due.holds("no copy is made", found(code, "copyOf|\\bclone\\b|\" \\+").isEmpty());
     }
 
     private static void fewFields(Class<?> each) {
